@@ -32,7 +32,8 @@ public final class RetryStorm {
     private static final int NUMBER = 0, CLIENT = 1, DEADLINE = 2, TRIED = 3, WAITS = 4, DUE = 5, DELAY = 6,
             LIVE_REQUEST = 7;
 
-    // Columns of an attempt. OF is its request's number, or ABANDONED, or NONE at a worker without an attempt.
+    // Columns of an attempt. OF is its request's number, or ABANDONED, or NONE at a worker without an attempt;
+    // PLACE is kept at the front workers alone.
     private static final int OF = 0, EXPIRES = 1, FRONT_LEFT = 2, BACK_LEFT = 3, WORKED = 4, PLACE = 5, ATTEMPT = 6;
     private static final int WAITING = 0, IN_FRONT_QUEUE = 1, AT_FRONT_WORKER = 2, IN_BACK_QUEUE = 3,
             AT_BACK_WORKER = 4;
@@ -758,11 +759,11 @@ public final class RetryStorm {
             s.queue.put(row, EXPIRES, s.requests.get(request, DUE));
             s.queue.put(row, FRONT_LEFT, s.clients.get(client, FRONT_WORK));
             s.queue.put(row, BACK_LEFT, s.clients.get(client, BACK_WORK));
-            s.queue.put(row, PLACE, IN_FRONT_QUEUE);
         }
 
         static void fillBackWorkers(State s) {
-            for (int worker = 0; worker < s.servers.get(BACK_WORKERS, 0); worker++) {
+            int workers = s.servers.get(BACK_WORKERS, 0);
+            for (int worker = 0; worker < workers; worker++) {
                 for (int left = s.backQueue.size(); left > 0 && s.backWorkers.get(worker, 0) == NONE; left--) {
                     Clients.fail(s, takeAtBack(s, worker), HOPELESS);
                 }
@@ -770,7 +771,8 @@ public final class RetryStorm {
         }
 
         static void fillFrontWorkers(State s) {
-            for (int worker = 0; worker < s.servers.get(FRONT_WORKERS, 0); worker++) {
+            int workers = s.servers.get(FRONT_WORKERS, 0);
+            for (int worker = 0; worker < workers; worker++) {
                 for (int left = s.queue.size(); left > 0 && s.workers.get(worker, OF) == NONE; left--) {
                     Clients.fail(s, takeAtFront(s, worker, nextInQueue(s)), HOPELESS);
                 }

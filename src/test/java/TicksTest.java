@@ -25,6 +25,7 @@ public final class TicksTest {
         backWorksOnAbandoned();
         worksAreThoseWhenSent();
         orderOfCreation();
+        sixteenAtOnce();
         check.end();
     }
 
@@ -345,6 +346,7 @@ public final class TicksTest {
         RetryStorm x = queueOfThree();
         x.set(1, TIMEOUT, 1);
         x.set(1, ATTEMPTS, 1);
+        x.set(1, FRONT, 1);
         x.set(2, TIMEOUT, 5);
         x.set(2, ATTEMPTS, 1);
         x.setSwitch(1, true);
@@ -488,6 +490,31 @@ public final class TicksTest {
         check.due("run(3)", x.run(3), 0);
         check.due("run(1)", x.run(1), 1);
         check.due("good", x.told(7), 5);
+    }
+
+    private static void sixteenAtOnce() {
+        check.part("sixteen requests that expire and are sent again at once");
+        RetryStorm x = new RetryStorm();
+        x.setServer(1, 16);
+        x.setSwitch(2, true);
+        for (int client = 0; client < 4; client++) {
+            x.set(client, PERIOD, 50);
+            x.set(client, TIMEOUT, 5);
+            x.set(client, FRONT, 12);
+            x.surge(client, 4, 0, 1);
+        }
+        x.run(5);
+        check.due("told(1)", x.told(1), 16);
+        check.due("told(2)", x.told(2), 16);
+        check.due("told(5)", x.told(5), 0);
+        check.due("the first is sent at", x.request(0, 4), 7);
+        check.due("the last is sent at", x.request(15, 4), 7);
+        x.run(3);
+        check.due("told(2)", x.told(2), 0);
+        check.due("told(3)", x.told(3), 14);
+        check.due("window(2, 1)", x.window(2, 1), 16);
+        check.due("in the order of their numbers, the first", x.atWorker(false, 0), 0);
+        check.due("in the order of their numbers, the last", x.queued(false, 13), 15);
     }
 
     private static void orderOfCreation() {

@@ -9,6 +9,8 @@ public final class UndoTest {
         whatRecords();
         everythingComesBack();
         drawsComeBack();
+        switchesAndServersComeBack();
+        longestComesBack();
         check.end();
     }
 
@@ -139,6 +141,36 @@ public final class UndoTest {
         x.run(25);
         y.run(25);
         check.due("what comes later", hashWithoutRecords(x), hashWithoutRecords(y));
+    }
+
+    private static void switchesAndServersComeBack() {
+        check.part("switches and servers come back");
+        RetryStorm x = new RetryStorm();
+        for (int which = 0; which < 3; which++) {
+            x.setSwitch(which, true);
+            check.due("undo()", x.undo(), 0);
+            check.due("setSwitch(" + which + ", false)", x.setSwitch(which, false), 0);
+            x.undo();
+        }
+        int[] first = {2, 8, 1, 4};
+        for (int what = 0; what < 4; what++) {
+            x.setServer(what, 3);
+            x.undo();
+            check.due("setServer(" + what + ", 2)", x.setServer(what, 2), first[what]);
+            x.undo();
+        }
+    }
+
+    private static void longestComesBack() {
+        check.part("the greatest length comes back");
+        RetryStorm x = new RetryStorm();
+        x.set(0, 0, 1);
+        x.set(0, 8, 12);
+        x.run(4);
+        x.run(5);
+        check.due("told(10)", x.told(10), 7);
+        x.undo();
+        check.due("told(10)", x.told(10), 2);
     }
 
     private static void drawsComeBack() {

@@ -8,6 +8,7 @@ public final class WhatIfTest {
         oneRequest();
         asIfRun();
         ties();
+        withSwitches();
         check.end();
     }
 
@@ -95,6 +96,41 @@ public final class WhatIfTest {
         check.due("the first in are too late", x.ifRun(15, 0), 0);
         check.holds("the last in are not", x.ifRun(15, 1) > 0);
         check.due("bestDiscipline(15)", x.bestDiscipline(15), 1);
+    }
+
+    /** A worker of one; request 0 comes at tick 0, and those of the clients 1 and 2 at ticks of their own. */
+    private static RetryStorm three(int timeout, int firstPhase, int secondPhase) {
+        RetryStorm x = new RetryStorm();
+        x.setServer(0, 1);
+        x.setServer(1, 1);
+        int[] phases = {0, firstPhase, secondPhase};
+        int[] timeouts = {timeout, 10, 40};
+        int[] works = {12, 3, 5};
+        for (int client = 0; client < 3; client++) {
+            x.set(client, 0, 50);
+            x.set(client, 1, phases[client]);
+            x.set(client, 2, 60);
+            x.set(client, 3, 1);
+            x.set(client, 4, timeouts[client]);
+            x.set(client, 8, works[client]);
+        }
+        return x;
+    }
+
+    private static void withSwitches() {
+        check.part("the switches hold there, too");
+        RetryStorm displacing = three(20, 1, 2);
+        check.due("without displacing request 2 is rejected", displacing.ifRun(20, 0), 12);
+        displacing.setSwitch(0, true);
+        check.due("with displacing request 1 is", displacing.ifRun(20, 0), 12 + 5);
+        RetryStorm passing = three(4, 1, 50);
+        check.due("without passing request 0 holds the worker", passing.ifRun(20, 0), 0);
+        passing.setSwitch(1, true);
+        check.due("with passing it is hopeless", passing.ifRun(20, 0), 3);
+        RetryStorm cancelling = three(4, 4, 50);
+        check.due("without cancelling request 0 holds the worker", cancelling.ifRun(20, 0), 0);
+        cancelling.setSwitch(2, true);
+        check.due("with cancelling it leaves it", cancelling.ifRun(20, 0), 3);
     }
 
     private static void ties() {
