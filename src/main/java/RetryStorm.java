@@ -825,7 +825,8 @@ public final class RetryStorm {
         // At the back server no front work is left, so that one sum serves both servers.
         static boolean isHopeless(State s, Table attempts, int row) {
             int left = Math.max(0, attempts.get(row, EXPIRES) - s.clock);
-            return s.switches.get(PASSING, 0) == 1 && left < attempts.get(row, FRONT_LEFT) + attempts.get(row, BACK_LEFT);
+            int needed = attempts.get(row, FRONT_LEFT) + attempts.get(row, BACK_LEFT);
+            return s.switches.get(PASSING, 0) == 1 && left < needed;
         }
 
         static void work(State s) {
