@@ -35,7 +35,8 @@ public final class DigestTest {
         check.end();
     }
 
-    private static long of(RetryStorm x) {
+    /** The hash, told by the other methods. */
+    static long of(RetryStorm x) {
         long h = 18520;
         for (int what = 0; what <= 12; what++) {
             h = 31 * h + x.told(what);

@@ -18,6 +18,7 @@ public final class EdgesOfCallsTest {
         rangesOfCounts();
         rangesOfPlaces();
         rangesOfHistory();
+        valuesBefore();
         badBeforeState();
         refusalsChangeNothing();
         noneOnlyWithoutAnError();
@@ -29,6 +30,7 @@ public final class EdgesOfCallsTest {
         liveRequests();
         requestNumbers();
         placesInQueues();
+        abandonedOnes();
         workersThatAreNot();
         whereARequestIs();
         check.end();
@@ -100,8 +102,8 @@ public final class EdgesOfCallsTest {
     }
 
     private static void rangesOfServers() {
-        check.sentence("## Promise 4:", "0 for the front workers, 1 for the capacity of the front queue, 2 for the back "
-            + "workers, 3 for the capacity of the back queue");
+        check.sentence("## Promise 4:", "0 for the front workers, 1 for the capacity of the front queue, 2 for the "
+            + "back workers, 3 for the capacity of the back queue");
         range(0, 3, (x, v) -> x.setServer(v, 4));
         check.sentence("The front server has workers (1 to 4; 2 at first)");
         range(1, 4, (x, v) -> x.setServer(0, v));
@@ -168,6 +170,36 @@ public final class EdgesOfCallsTest {
         check.sentence("## Promise 20:", "BAD if client or limit is out of range");
         range(0, 5, (x, v) -> x.recovery(v, 16));
         range(0, 16, (x, v) -> x.recovery(2, v));
+    }
+
+    private static void valuesBefore() {
+        check.sentence("## Promise 2:", "Returns the value before;");
+        RetryStorm x = new RetryStorm();
+        int[] first = {0, 0, 20, 3, 10, 2, 16, 0, 2, 0, 20, 10};
+        for (int what = 0; what < 12; what++) {
+            check.due("the least of property " + what, x.set(4, what, LEAST[what]), first[what]);
+            check.due("the most of property " + what, x.set(4, what, MOST[what]), LEAST[what]);
+            check.due("the most of property " + what + " again", x.set(4, what, MOST[what]), MOST[what]);
+            check.due("property(4, " + what + ")", x.property(4, what), MOST[what]);
+            check.due("property(5, " + what + ")", x.property(5, what), first[what]);
+        }
+        check.sentence("## Promise 4:", "Returns the value before;");
+        int[] servers = {2, 8, 1, 4};
+        for (int what = 0; what < 4; what++) {
+            check.due("the least of " + what, x.setServer(what, 1), servers[what]);
+            check.due("the most of " + what, x.setServer(what, what % 2 == 0 ? 4 : 16), 1);
+            check.due("2 of " + what, x.setServer(what, 2), what % 2 == 0 ? 4 : 16);
+        }
+        check.sentence("## Promise 5:", "Returns the discipline before;");
+        check.due("setDiscipline(3)", x.setDiscipline(3), 0);
+        check.due("setDiscipline(0)", x.setDiscipline(0), 3);
+        check.sentence("## Promise 6:", "Returns 1 if it was on before, otherwise 0;");
+        for (int which = 0; which < 3; which++) {
+            check.due("off to on", x.setSwitch(which, true), 0);
+            check.due("on to on", x.setSwitch(which, true), 1);
+            check.due("on to off", x.setSwitch(which, false), 1);
+            check.due("off to off", x.setSwitch(which, false), 0);
+        }
     }
 
     /** All front workers are held, two attempts are at back workers, two in the back queue, three in the front queue. */
@@ -404,6 +436,33 @@ public final class EdgesOfCallsTest {
         }
     }
 
+    private static void abandonedOnes() {
+        RetryStorm x = Storms.everyPlace();
+        for (int client = 0; client < 4; client++) {
+            x.set(client, Storms.ATTEMPTS, 1);
+        }
+        x.run(2);
+        RetryStorm y = Storms.everyPlace();
+        y.run(3);
+        check.sentence("## Promise 16:", "Returns the number of the request; -8 if the attempt has been abandoned;");
+        check.due("queued(false, 0) before tick 5", x.queued(false, 0), 3);
+        check.due("queued(false, 0) at tick 5", y.queued(false, 0), -8);
+        check.due("queued(true, 0) before tick 5", x.queued(true, 0), 1);
+        check.due("queued(true, 0) at tick 5", y.queued(true, 0), -8);
+        check.sentence("## Promise 17:", "Returns the number of the request; -8 if the attempt has been abandoned;");
+        check.due("atWorker(true, 0) before tick 5", x.atWorker(true, 0), 0);
+        check.due("atWorker(true, 0) at tick 5", y.atWorker(true, 0), -8);
+        for (int worker = 0; worker < 3; worker++) {
+            check.due("atWorker(false, " + worker + ") before tick 5", x.atWorker(false, worker), worker);
+            check.due("atWorker(false, " + worker + ") at tick 5", y.atWorker(false, worker), -8);
+        }
+        // An attempt is abandoned even if its request goes on.
+        check.due("request 3 waits", y.request(3, 3), 0);
+        x.run(1);
+        check.due("request 3 has failed", x.request(3, 3), NONE);
+        check.due("queued(false, 0) of a request that has failed", x.queued(false, 0), -8);
+    }
+
     private static void workersThatAreNot() {
         check.sentence("NONE if the worker has none (or there is no such worker)");
         for (boolean back : new boolean[] {false, true}) {
@@ -425,7 +484,8 @@ public final class EdgesOfCallsTest {
     }
 
     private static void whereARequestIs() {
-        check.sentence("(0 waiting, 1 in the front queue, 2 at a front worker that works, 3 in the back queue, 4 at a back worker)");
+        check.sentence("(0 waiting, 1 in the front queue, 2 at a front worker that works, 3 in the back queue, 4 at "
+            + "a back worker)");
         RetryStorm x = new RetryStorm();
         x.setServer(0, 3);
         x.setServer(1, 4);

@@ -114,6 +114,9 @@ public final class EdgesOfClientsTest {
         check.due("the later one", x.count(0, 0), 4 + 2);
         x.run(1);
         check.due("the first does not come back", x.count(0, 0), 6 + 1);
+        check.sentence("When it is due, it creates one request;");
+        x.run(60);
+        check.due("one each tick", x.count(0, 0), 7 + 60);
     }
 
     private static void numbersOfWorkers() {
@@ -200,8 +203,8 @@ public final class EdgesOfClientsTest {
     }
 
     private static void capacityOfTheBackQueue() {
-        check.sentence("or, if this is full, it is removed, its front worker is free, and it fails by rejection, unless it "
-            + "has been abandoned");
+        check.sentence("or, if this is full, it is removed, its front worker is free, and it fails by rejection, "
+            + "unless it has been abandoned");
         for (int capacity = 1; capacity <= 4; capacity++) {
             for (int timeout = 2; timeout <= 3; timeout++) {
                 RetryStorm x = new RetryStorm();
@@ -242,8 +245,8 @@ public final class EdgesOfClientsTest {
     }
 
     private static void moreThanHalf() {
-        check.sentence("2 the one that came last, if more than half of the capacity of the queue is in use, otherwise the "
-            + "one that came first;");
+        check.sentence("2 the one that came last, if more than half of the capacity of the queue is in use, "
+            + "otherwise the one that came first;");
         for (int capacity = 1; capacity <= 16; capacity++) {
             for (int length = 1; length <= Math.min(15, capacity); length++) {
                 int want = length > capacity - length ? length : 1;
@@ -272,6 +275,15 @@ public final class EdgesOfClientsTest {
         RetryStorm y = Storms.queueOf(15, 16);
         y.set(3, Storms.TIMEOUT, 39);
         check.due("the last client's one tick earlier", taken(y, 3), 13);
+        // Each of four clients with one request in turn is the one whose expires a tick before the others'.
+        for (int place = 0; place < 4; place++) {
+            RetryStorm w = Storms.queueOf(0, 16);
+            for (int client = 0; client < 4; client++) {
+                Storms.burst(w, client, 1, 1, 2, 0);
+            }
+            w.set(place, Storms.TIMEOUT, 39);
+            check.due("place " + place, taken(w, 3), 1 + place);
+        }
         // One that has been abandoned still is the one that expires first.
         RetryStorm z = Storms.queueOf(8, 16);
         z.set(1, Storms.TIMEOUT, 1);

@@ -6,6 +6,7 @@ public final class EdgesOfRequestsTest {
     public static void main(String[] args) {
         numbers();
         deadlines();
+        deadlinesAreKept();
         sixteenLiveRequests();
         lostRequestsDoNothingElse();
         expiry();
@@ -65,6 +66,24 @@ public final class EdgesOfRequestsTest {
         check.due("patience 1, answered", y.run(1), 1);
     }
 
+    private static void deadlinesAreKept() {
+        check.sentence("Live requests keep their deadlines.");
+        for (int patience = 1; patience <= 60; patience += 59) {
+            RetryStorm x = Storms.one(12, 0);
+            x.set(0, Storms.PATIENCE, 20);
+            x.set(0, Storms.TIMEOUT, 3);
+            x.run(1);
+            x.set(0, Storms.PATIENCE, patience);
+            check.due("the deadline", x.request(0, 1), 20);
+            x.set(0, Storms.TIMEOUT, 40);
+            check.due("when the attempt expires", x.request(0, 4), 3);
+            x.run(5);
+            check.due("sent at 3 + 2", x.request(0, 2), 2);
+            check.due("the deadline", x.request(0, 1), 20);
+            check.due("the next attempt expires at the deadline", x.request(0, 4), 20);
+        }
+    }
+
     /** 15 requests are live at the end of tick 1: one at the worker until tick 11, 14 in the queue. */
     private static RetryStorm fifteen() {
         RetryStorm x = Storms.queueOf(14, 16);
@@ -118,7 +137,8 @@ public final class EdgesOfRequestsTest {
     }
 
     private static void expiry() {
-        check.sentence("the attempt expires at the tick that is now + timeout, or at the deadline, if this is earlier.");
+        check.sentence("the attempt expires at the tick that is now + timeout, or at the deadline, if this is "
+            + "earlier.");
         int[][] cases = {{5, 6, 5}, {5, 5, 5}, {5, 4, 4}, {40, 60, 40}, {40, 41, 40}, {40, 40, 40}, {40, 39, 39}, {2, 60, 2},
             {40, 2, 2}};
         for (int[] c : cases) {
@@ -136,7 +156,8 @@ public final class EdgesOfRequestsTest {
     }
 
     private static void expiryOfALaterAttempt() {
-        check.sentence("the attempt expires at the tick that is now + timeout, or at the deadline, if this is earlier.");
+        check.sentence("the attempt expires at the tick that is now + timeout, or at the deadline, if this is "
+            + "earlier.");
         for (int patience = 9; patience <= 14; patience++) {
             RetryStorm x = Storms.one(12, 0);
             x.set(0, Storms.TIMEOUT, 5);
@@ -228,8 +249,8 @@ public final class EdgesOfRequestsTest {
     }
 
     private static void frontWork() {
-        check.sentence("An attempt that is taken by a front worker is worked on for as many ticks as the front work of its "
-            + "client says. Then, if its back work is 0, it is answered.");
+        check.sentence("An attempt that is taken by a front worker is worked on for as many ticks as the front work "
+            + "of its client says. Then, if its back work is 0, it is answered.");
         for (int work = 1; work <= 12; work++) {
             RetryStorm x = Storms.one(work, 0);
             for (int t = 1; t < work; t++) {
@@ -243,15 +264,18 @@ public final class EdgesOfRequestsTest {
     }
 
     private static void backWork() {
+        check.sentence("Otherwise it calls the back server, and its front worker is held until that has ended:");
         check.sentence("it is worked on by a back worker for as many ticks as the back work of its client says, and is "
             + "answered then.");
         for (int work = 1; work <= 12; work++) {
             RetryStorm x = Storms.one(2, work);
             x.run(2);
             check.due("it has called", x.request(0, 3), 3);
+            check.due("its front worker is held", x.atWorker(false, 0), 0);
             for (int t = 1; t < work; t++) {
                 check.due("tick " + t + " of " + work, x.run(1), 0);
                 check.due("told(9)", x.told(9), 2 + t);
+                check.due("its front worker is held", x.atWorker(false, 0), 0);
             }
             check.due("the last tick of " + work, x.run(1), 1);
             check.due("told(7)", x.told(7), 2 + work);
@@ -324,7 +348,8 @@ public final class EdgesOfRequestsTest {
     }
 
     private static void rejectedAsItExpires() {
-        check.sentence("An attempt that has not been answered or failed when the tick at which it expires begins is abandoned");
+        check.sentence("An attempt that has not been answered or failed when the tick at which it expires begins is "
+            + "abandoned");
         for (int timeout = 2; timeout <= 3; timeout++) {
             RetryStorm x = new RetryStorm();
             x.setServer(0, 3);
@@ -396,8 +421,8 @@ public final class EdgesOfRequestsTest {
     }
 
     private static void passingAtTheFront() {
-        check.sentence("a front worker that takes an attempt first looks whether the ticks that are left until it expires "
-            + "are fewer than the front work and the back work of its client together");
+        check.sentence("a front worker that takes an attempt first looks whether the ticks that are left until it "
+            + "expires are fewer than the front work and the back work of its client together");
         for (int frontWork = 1; frontWork <= 12; frontWork++) {
             for (int backWork = 0; backWork <= 12; backWork++) {
                 for (int less = 0; less <= 1; less++) {
@@ -434,7 +459,8 @@ public final class EdgesOfRequestsTest {
 
     private static void passingAtTheBack() {
         check.sentence("a back worker whether they are fewer than the back work.");
-        check.sentence("If so, the attempt is removed (and at the back server, its front worker is free) and fails by hopelessness");
+        check.sentence("If so, the attempt is removed (and at the back server, its front worker is free) and fails "
+            + "by hopelessness");
         for (int timeout = 8; timeout <= 9; timeout++) {
             RetryStorm x = Storms.one(1, 4);
             x.surge(0, 2, 0, 1);
@@ -454,6 +480,7 @@ public final class EdgesOfRequestsTest {
     }
 
     private static void passingAnAbandonedOneAtTheBack() {
+        check.sentence("and fails by hopelessness, unless it has been abandoned;");
         check.sentence("(An attempt that has been abandoned has no ticks left.)");
         // Request 1 is abandoned at tick 5 in the back queue; request 2 has 1 tick of back work and many left.
         RetryStorm x = new RetryStorm();

@@ -97,8 +97,8 @@ public final class EdgesOfRetriesTest {
     }
 
     private static void numbersDrawn() {
-        check.sentence("To draw a number, x becomes x * 1103515245 + 12345 (int arithmetic that wraps around), and the number "
-            + "is (x >>> 16) & 32767; x is 1 at first");
+        check.sentence("To draw a number, x becomes x * 1103515245 + 12345 (int arithmetic that wraps around), and "
+            + "the number is (x >>> 16) & 32767; x is 1 at first");
         RetryStorm x = fourteen();
         x.run(1);
         checkFourteen(x);
@@ -143,8 +143,8 @@ public final class EdgesOfRetriesTest {
     }
 
     private static void jitterThree() {
-        check.sentence("Jitter 3: base + (a number that is drawn) % (2 * d + 1), but at most cap, where d is the delay before "
-            + "this one of the same request");
+        check.sentence("Jitter 3: base + (a number that is drawn) % (2 * d + 1), but at most cap, where d is the "
+            + "delay before this one of the same request");
         for (int base = 1; base <= 16; base++) {
             for (int k = 2; k <= 5; k++) {
                 check.due("base " + base + " after a delay of 1", delayAfter(k, base, 64, 3), base + DRAWN[0] % 3);
@@ -303,8 +303,8 @@ public final class EdgesOfRetriesTest {
     }
 
     private static void orderOfTheReasons() {
-        check.sentence("These reasons are looked at in this order, and the delay is computed (and a number drawn, if the jitter "
-            + "needs one) only if the first two do not apply.");
+        check.sentence("These reasons are looked at in this order, and the delay is computed (and a number drawn, "
+            + "if the jitter needs one) only if the first two do not apply.");
         int first = 1 + DRAWN[0] % 7;
         int second = 1 + DRAWN[1] % 7;
         check.holds("the two can be told apart", first != second);

@@ -13,6 +13,7 @@ public final class EdgesOfTicksTest {
         aFreeWorkerTakesInTheNextTick();
         frontWorkersEndInOrder();
         answersBeforeCalls();
+        freedWorkers();
         abandonedInOrder();
         decidedAtOnce();
         sentInTheLastStepsNextTick();
@@ -93,8 +94,8 @@ public final class EdgesOfTicksTest {
     }
 
     private static void workersTakeInOrder() {
-        check.sentence("3. Each back worker that has no attempt, in ascending order, takes one from the queue of the back server; "
-            + "then each front worker likewise, from the queue of the front server.");
+        check.sentence("3. Each back worker that has no attempt, in ascending order, takes one from the queue of "
+            + "the back server; then each front worker likewise, from the queue of the front server.");
         for (int requests = 1; requests <= 4; requests++) {
             RetryStorm x = new RetryStorm();
             x.setServer(0, 4);
@@ -127,8 +128,8 @@ public final class EdgesOfTicksTest {
     }
 
     private static void heldWorkersDoNotWork() {
-        check.sentence("4. Each back worker that has an attempt, and each front worker whose attempt has not called the back "
-            + "server, works for one tick.");
+        check.sentence("4. Each back worker that has an attempt, and each front worker whose attempt has not called "
+            + "the back server, works for one tick.");
         RetryStorm x = Storms.everyPlace();
         // Work in tick 2: the back worker's and one front worker's; two front workers are held.
         int before = x.told(9);
@@ -167,8 +168,8 @@ public final class EdgesOfTicksTest {
     }
 
     private static void answersBeforeCalls() {
-        check.sentence("The back workers, in ascending order, whose attempt is finished: it is answered, and both its workers are "
-            + "free.");
+        check.sentence("The back workers, in ascending order, whose attempt is finished: it is answered, and both "
+            + "its workers are free.");
         // At the end of tick 3 the back worker ends request 0 while request 2 calls: the queue of one is still full.
         RetryStorm x = new RetryStorm();
         x.setServer(0, 3);
@@ -184,9 +185,24 @@ public final class EdgesOfTicksTest {
         check.due("its worker is free", x.atWorker(false, 2), NONE);
     }
 
+    private static void freedWorkers() {
+        check.sentence("it is answered, and the worker is free; or it calls the back server (and if that rejects "
+            + "it, the worker is free).");
+        RetryStorm x = new RetryStorm();
+        x.setServer(0, 3);
+        x.setServer(3, 1);
+        Storms.burst(x, 0, 0, 1, 2, 0);
+        Storms.burst(x, 1, 0, 2, 2, 3);
+        x.run(2);
+        check.due("answered", x.atWorker(false, 0), NONE);
+        check.due("called: held", x.atWorker(false, 1), 1);
+        check.due("rejected", x.atWorker(false, 2), NONE);
+        check.due("told(5)", x.told(5), 1);
+    }
+
     private static void abandonedInOrder() {
-        check.sentence("6. The live requests, in ascending order of their numbers, whose attempt expires at this tick (t + 1) "
-            + "abandon it.");
+        check.sentence("6. The live requests, in ascending order of their numbers, whose attempt expires at this "
+            + "tick (t + 1) abandon it.");
         // Request 1 comes later, but is at the lower worker; both expire at tick 5.
         RetryStorm x = new RetryStorm();
         for (int client = 0; client < 3; client++) {
@@ -206,7 +222,8 @@ public final class EdgesOfTicksTest {
     }
 
     private static void decidedAtOnce() {
-        check.sentence("If an attempt fails in one of these steps, it is decided at once whether its request waits or fails.");
+        check.sentence("If an attempt fails in one of these steps, it is decided at once whether its request waits "
+            + "or fails.");
         // Client 1 has 10 units: the first of two rejections in one tick takes them, the second one fails.
         RetryStorm x = Storms.blocked();
         Storms.refused(x, 1, 2);
@@ -253,7 +270,8 @@ public final class EdgesOfTicksTest {
     }
 
     private static void goodWork() {
-        check.sentence("When an attempt has been answered while its request was live and had not abandoned it, all its work is good");
+        check.sentence("When an attempt has been answered while its request was live and had not abandoned it, all "
+            + "its work is good");
         RetryStorm x = Storms.one(3, 4);
         x.run(6);
         check.due("before its answer", x.told(7), 0);

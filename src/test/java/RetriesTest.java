@@ -1,8 +1,7 @@
 /** Description, RETRIES: delays, jitter, units and the reasons to give up. */
 public final class RetriesTest {
     private static final Check check = new Check("RetriesTest");
-    private static final int PATIENCE = 2, ATTEMPTS = 3, TIMEOUT = 4, BASE = 5, CAP = 6, JITTER = 7, BUDGET = 10,
-        REFUND = 11;
+    private static final int PATIENCE = 2, ATTEMPTS = 3, BASE = 5, CAP = 6, JITTER = 7, BUDGET = 10, REFUND = 11;
 
     public static void main(String[] args) {
         noJitter();
@@ -13,31 +12,9 @@ public final class RetriesTest {
         attemptsRunOut();
         unitsRunOut();
         deadlineIsTooNear();
-        drawsOnlyIfAsked();
         refund();
         lost();
         check.end();
-    }
-
-    /**
-     * At tick 2 the only front worker is held until tick 12 and the only place in the queue until then, so
-     * each attempt of request 2, which client 1 creates at tick 2, is rejected before tick 12.
-     */
-    private static RetryStorm blocked() {
-        RetryStorm x = new RetryStorm();
-        x.setServer(0, 1);
-        x.setServer(1, 1);
-        x.set(0, 0, 1);
-        x.set(0, PATIENCE, 60);
-        x.set(0, TIMEOUT, 40);
-        x.set(0, 8, 12);
-        x.run(2);
-        x.set(0, 0, 0);
-        x.set(1, 0, 50);
-        x.set(1, 1, 2);
-        x.set(1, PATIENCE, 60);
-        x.set(1, ATTEMPTS, 6);
-        return x;
     }
 
     private static void sentAt(RetryStorm x, int tick) {
@@ -47,7 +24,7 @@ public final class RetriesTest {
 
     private static void noJitter() {
         check.part("jitter 0");
-        RetryStorm x = blocked();
+        RetryStorm x = Storms.blocked();
         x.set(1, BASE, 1);
         x.set(1, CAP, 3);
         x.run(1);
@@ -86,7 +63,7 @@ public final class RetriesTest {
         };
         for (int[] c : cases) {
             check.part("jitter " + c[0] + " with base " + c[1]);
-            RetryStorm x = blocked();
+            RetryStorm x = Storms.blocked();
             x.set(1, JITTER, c[0]);
             x.set(1, BASE, c[1]);
             x.set(1, CAP, c[2]);
@@ -101,7 +78,7 @@ public final class RetriesTest {
 
     private static void jitterThreeIsCapped() {
         check.part("jitter 3 with a cap");
-        RetryStorm x = blocked();
+        RetryStorm x = Storms.blocked();
         x.set(1, JITTER, 3);
         x.set(1, BASE, 3);
         x.set(1, CAP, 5);
@@ -113,7 +90,7 @@ public final class RetriesTest {
 
     private static void jitterThreeRemembersDelays() {
         check.part("jitter 3 after jitter 0");
-        RetryStorm x = blocked();
+        RetryStorm x = Storms.blocked();
         x.set(1, BASE, 5);
         x.run(1);
         sentAt(x, 7);
@@ -126,7 +103,7 @@ public final class RetriesTest {
     private static void rawOfOne() {
         for (int jitter = 0; jitter < 4; jitter++) {
             check.part("cap 1, jitter " + jitter);
-            RetryStorm x = blocked();
+            RetryStorm x = Storms.blocked();
             x.set(1, JITTER, jitter);
             x.set(1, CAP, 1);
             x.set(1, BASE, 16);
@@ -139,7 +116,7 @@ public final class RetriesTest {
 
     private static void attemptsRunOut() {
         check.part("attempts run out");
-        RetryStorm x = blocked();
+        RetryStorm x = Storms.blocked();
         x.set(1, ATTEMPTS, 2);
         x.set(1, BASE, 1);
         x.run(1);
@@ -149,7 +126,7 @@ public final class RetriesTest {
         check.due("failed", x.count(1, 3), 1);
         check.due("rejections", x.count(1, 4), 2);
         check.due("units", x.count(1, 7), 190);
-        RetryStorm y = blocked();
+        RetryStorm y = Storms.blocked();
         y.set(1, BASE, 1);
         y.run(1);
         y.set(1, ATTEMPTS, 1);
@@ -160,7 +137,7 @@ public final class RetriesTest {
 
     private static void unitsRunOut() {
         check.part("units run out");
-        RetryStorm x = blocked();
+        RetryStorm x = Storms.blocked();
         x.set(1, BUDGET, 1);
         x.set(1, BASE, 1);
         x.run(1);
@@ -169,7 +146,7 @@ public final class RetriesTest {
         x.run(1);
         check.due("failed", x.count(1, 3), 1);
         check.due("units", x.count(1, 7), 0);
-        RetryStorm y = blocked();
+        RetryStorm y = Storms.blocked();
         y.set(1, BUDGET, 0);
         y.run(1);
         check.due("no budget, failed", y.count(1, 3), 1);
@@ -178,13 +155,13 @@ public final class RetriesTest {
 
     private static void deadlineIsTooNear() {
         check.part("the deadline");
-        RetryStorm x = blocked();
+        RetryStorm x = Storms.blocked();
         x.set(1, BASE, 5);
         x.set(1, PATIENCE, 5);
         x.run(1);
         check.due("at the deadline it is too late", x.count(1, 3), 1);
         check.due("units are not paid", x.count(1, 7), 200);
-        RetryStorm y = blocked();
+        RetryStorm y = Storms.blocked();
         y.set(1, BASE, 5);
         y.set(1, PATIENCE, 6);
         y.run(1);
@@ -192,35 +169,9 @@ public final class RetriesTest {
         check.due("units are paid", y.count(1, 7), 190);
     }
 
-    private static void drawsOnlyIfAsked() {
-        check.part("what draws a number");
-        int second = 2 + 1 + 5758 % 8;
-        int first = 2 + 1 + 16838 % 8;
-        check.due("the deadline is looked at after the draw", secondClientSentAt(PATIENCE, 2), second);
-        check.due("attempts before", secondClientSentAt(ATTEMPTS, 1), first);
-        check.due("units before", secondClientSentAt(BUDGET, 0), first);
-        check.due("jitter 0", secondClientSentAt(JITTER, 0), first);
-        check.due("a draw each", secondClientSentAt(CAP, 64), second);
-    }
-
-    /** Client 1 is rejected at tick 2 with a property of its own, then client 2, which tells how far x is. */
-    private static int secondClientSentAt(int what, int v) {
-        RetryStorm x = blocked();
-        x.set(1, BASE, 8);
-        x.set(1, JITTER, 1);
-        x.set(1, what, v);
-        x.set(2, 0, 50);
-        x.set(2, 1, 2);
-        x.set(2, PATIENCE, 60);
-        x.set(2, BASE, 8);
-        x.set(2, JITTER, 1);
-        x.run(1);
-        return x.request(3, 4);
-    }
-
     private static void refund() {
         check.part("refund");
-        RetryStorm x = blocked();
+        RetryStorm x = Storms.blocked();
         x.set(1, BASE, 16);
         x.set(1, 0, 1);
         x.set(1, BUDGET, 2);

@@ -29,16 +29,6 @@ public final class TicksTest {
         check.end();
     }
 
-    private static RetryStorm one(int frontWork, int backWork) {
-        RetryStorm x = new RetryStorm();
-        x.set(0, PERIOD, 50);
-        x.set(0, PATIENCE, 60);
-        x.set(0, TIMEOUT, 40);
-        x.set(0, FRONT, frontWork);
-        x.set(0, BACK, backWork);
-        return x;
-    }
-
     private static void runAnswers() {
         check.part("promise 8");
         RetryStorm x = new RetryStorm();
@@ -75,7 +65,7 @@ public final class TicksTest {
 
     private static void oneRequest() {
         check.part("one request");
-        RetryStorm x = one(3, 0);
+        RetryStorm x = Storms.one(3, 0);
         check.due("tick 0", x.run(1), 0);
         check.due("told(9)", x.told(9), 1);
         check.due("told(5)", x.told(5), 1);
@@ -96,11 +86,11 @@ public final class TicksTest {
 
     private static void answeredAsItExpires() {
         check.part("an answer at the tick of expiry");
-        RetryStorm x = one(3, 0);
+        RetryStorm x = Storms.one(3, 0);
         x.set(0, TIMEOUT, 3);
         check.due("run(3)", x.run(3), 1);
         check.due("timeouts", x.count(0, 5), 0);
-        RetryStorm y = one(3, 0);
+        RetryStorm y = Storms.one(3, 0);
         y.set(0, PATIENCE, 3);
         y.run(1);
         check.due("expires at the deadline", y.request(0, 4), 3);
@@ -109,7 +99,7 @@ public final class TicksTest {
 
     private static void timeout() {
         check.part("timeout");
-        RetryStorm x = one(4, 0);
+        RetryStorm x = Storms.one(4, 0);
         x.set(0, TIMEOUT, 3);
         x.set(0, BASE, 1);
         x.run(2);
@@ -142,7 +132,7 @@ public final class TicksTest {
 
     private static void cancelling() {
         check.part("cancelling");
-        RetryStorm x = one(4, 0);
+        RetryStorm x = Storms.one(4, 0);
         x.set(0, TIMEOUT, 3);
         x.setSwitch(2, true);
         x.run(3);
@@ -154,7 +144,7 @@ public final class TicksTest {
         check.due("window(3, 1)", x.window(3, 1), 3);
         check.due("it waits", x.request(0, 3), 0);
         // Switched on later, cancelling does not remove what has been abandoned before.
-        RetryStorm y = one(8, 0);
+        RetryStorm y = Storms.one(8, 0);
         y.set(0, TIMEOUT, 3);
         y.set(0, ATTEMPTS, 1);
         y.run(3);
@@ -165,7 +155,7 @@ public final class TicksTest {
 
     private static void cancellingAtTheBack() {
         check.part("cancelling at the back server");
-        RetryStorm x = one(1, 8);
+        RetryStorm x = Storms.one(1, 8);
         x.set(0, TIMEOUT, 4);
         x.set(0, ATTEMPTS, 1);
         x.surge(0, 2, 0, 1);
@@ -185,14 +175,14 @@ public final class TicksTest {
 
     private static void cancellingInTheQueue() {
         check.part("cancelling in the front queue");
-        RetryStorm x = one(9, 0);
+        RetryStorm x = Storms.one(9, 0);
         x.setServer(0, 1);
         x.set(0, TIMEOUT, 4);
         x.set(0, ATTEMPTS, 1);
         x.surge(0, 3, 0, 1);
         x.run(3);
         check.due("queued(false, 1)", x.queued(false, 1), 2);
-        RetryStorm y = one(9, 0);
+        RetryStorm y = Storms.one(9, 0);
         y.setServer(0, 1);
         y.set(0, TIMEOUT, 4);
         y.set(0, ATTEMPTS, 1);
@@ -316,7 +306,7 @@ public final class TicksTest {
 
     private static void passing() {
         check.part("passing deadlines");
-        RetryStorm x = one(3, 2);
+        RetryStorm x = Storms.one(3, 2);
         x.set(0, TIMEOUT, 4);
         x.setSwitch(1, true);
         x.run(1);
@@ -324,17 +314,17 @@ public final class TicksTest {
         check.due("atWorker(false, 0)", x.atWorker(false, 0), NONE);
         check.due("it waits until 0 + 2", x.request(0, 4), 2);
         check.due("nothing is wasted", x.told(8), 0);
-        RetryStorm y = one(3, 2);
+        RetryStorm y = Storms.one(3, 2);
         y.set(0, TIMEOUT, 5);
         y.setSwitch(1, true);
         check.due("just enough ticks", y.run(5), 1);
         check.due("hopeless", y.count(0, 6), 0);
-        RetryStorm z = one(3, 2);
+        RetryStorm z = Storms.one(3, 2);
         z.set(0, TIMEOUT, 4);
         z.run(1);
         check.due("switched off", z.count(0, 6), 0);
         check.due("switched off", z.atWorker(false, 0), 0);
-        RetryStorm w = one(5, 0);
+        RetryStorm w = Storms.one(5, 0);
         w.set(0, PATIENCE, 4);
         w.setSwitch(1, true);
         w.run(1);
@@ -363,7 +353,7 @@ public final class TicksTest {
 
     private static void passingAtTheBack() {
         check.part("passing deadlines at the back server");
-        RetryStorm x = one(1, 4);
+        RetryStorm x = Storms.one(1, 4);
         x.set(0, TIMEOUT, 8);
         x.set(0, ATTEMPTS, 1);
         x.surge(0, 2, 0, 1);
@@ -378,13 +368,13 @@ public final class TicksTest {
         check.due("told(6)", x.told(6), 0);
         check.due("its front worker is free", x.atWorker(false, 1), NONE);
         check.due("wasted", x.told(8), 1);
-        RetryStorm y = one(1, 4);
+        RetryStorm y = Storms.one(1, 4);
         y.set(0, TIMEOUT, 9);
         y.surge(0, 2, 0, 1);
         y.setSwitch(1, true);
         check.due("just enough", y.run(9), 2);
         // The front worker that is freed takes an attempt in the same step.
-        RetryStorm z = one(1, 4);
+        RetryStorm z = Storms.one(1, 4);
         z.set(0, TIMEOUT, 8);
         z.surge(0, 3, 0, 1);
         z.set(0, ATTEMPTS, 1);
@@ -400,7 +390,7 @@ public final class TicksTest {
 
     private static void backServer() {
         check.part("the back server");
-        RetryStorm x = one(2, 3);
+        RetryStorm x = Storms.one(2, 3);
         x.surge(0, 2, 0, 1);
         x.set(1, PERIOD, 50);
         x.run(2);
@@ -432,7 +422,7 @@ public final class TicksTest {
 
     private static void backIsFull() {
         check.part("a full back queue");
-        RetryStorm x = one(2, 3);
+        RetryStorm x = Storms.one(2, 3);
         x.setServer(3, 1);
         x.surge(0, 2, 0, 1);
         x.run(2);
@@ -443,7 +433,7 @@ public final class TicksTest {
         check.due("window(3, 1)", x.window(3, 1), 2);
         check.due("now is tick 2: it waits until 4", x.request(1, 4), 4);
         // Displacing is for the front queue alone.
-        RetryStorm y = one(2, 3);
+        RetryStorm y = Storms.one(2, 3);
         y.setServer(3, 1);
         y.setSwitch(0, true);
         y.surge(0, 2, 0, 1);
@@ -451,7 +441,7 @@ public final class TicksTest {
         check.due("queued(true, 0)", y.queued(true, 0), 0);
         check.due("request(1, 3)", y.request(1, 3), 0);
         // An attempt that has been abandoned is rejected without a failure.
-        RetryStorm z = one(3, 3);
+        RetryStorm z = Storms.one(3, 3);
         z.setServer(3, 1);
         z.set(0, TIMEOUT, 2);
         z.set(0, ATTEMPTS, 1);
@@ -465,7 +455,7 @@ public final class TicksTest {
 
     private static void backWorksOnAbandoned() {
         check.part("abandoned at the back server");
-        RetryStorm x = one(1, 5);
+        RetryStorm x = Storms.one(1, 5);
         x.set(0, TIMEOUT, 3);
         x.set(0, ATTEMPTS, 1);
         x.run(4);
@@ -483,7 +473,7 @@ public final class TicksTest {
 
     private static void worksAreThoseWhenSent() {
         check.part("works are those when it was sent");
-        RetryStorm x = one(3, 2);
+        RetryStorm x = Storms.one(3, 2);
         x.run(1);
         x.set(0, FRONT, 1);
         x.set(0, BACK, 0);
