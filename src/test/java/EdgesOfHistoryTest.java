@@ -14,6 +14,7 @@ public final class EdgesOfHistoryTest {
         recoveryAtItsEnd();
         recoveryAtTheLimit();
         recoveryWithoutASurge();
+        recoveryAfterASurgeInPlace();
         recoveryWithoutATick();
         recoveryOfRememberedTicks();
         wholeQuotient();
@@ -237,6 +238,30 @@ public final class EdgesOfHistoryTest {
         check.due("it has none again", x.recovery(4, 16), NONE);
         x.run(10);
         check.due("it has none still", x.recovery(4, 16), NONE);
+    }
+
+    private static void recoveryAfterASurgeInPlace() {
+        check.sentence("Gives a client a surge, in place of the one that it had.");
+        RetryStorm x = new RetryStorm();
+        check.due("the first surge", x.surge(4, 2, 0, 1), 1);
+        x.run(5);
+        check.due("it has ended and is the client's still", x.recovery(4, 0), 0);
+        check.due("one that ends late", x.surge(4, 2, 50, 50), 105);
+        x.run(2);
+        check.due("the first surge is the client's no more", x.recovery(4, 0), NONE);
+        check.due("one that ends earlier", x.surge(4, 2, 0, 1), 8);
+        x.run(1);
+        check.due("tick 7 is before its end", x.recovery(4, 0), NONE);
+        x.run(1);
+        check.due("tick 8 is not", x.recovery(4, 0), 0);
+        // Back to before the two runs and the surge that ended earlier.
+        for (int left = 3; left >= 1; left--) {
+            check.due("undo()", x.undo(), left);
+        }
+        check.due("told(0)", x.told(0), 7);
+        check.due("the one that ends late again", x.recovery(4, 0), NONE);
+        x.run(2);
+        check.due("no tick from 105 on has been done", x.recovery(4, 16), NONE);
     }
 
     private static void recoveryWithoutATick() {

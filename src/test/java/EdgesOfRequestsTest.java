@@ -23,6 +23,8 @@ public final class EdgesOfRequestsTest {
         rejectedAsItExpires();
         withoutCancelling();
         withCancelling();
+        cancellingSwitchedOnLater();
+        cancellingSwitchedOffLater();
         passingAtTheFront();
         passingAfterWaiting();
         passingAtTheBack();
@@ -418,6 +420,42 @@ public final class EdgesOfRequestsTest {
             check.due("one failure", x.count(client, 5), 1);
             check.due("no other", x.count(client, 4) + x.count(client, 6), 0);
         }
+    }
+
+    private static void cancellingSwitchedOnLater() {
+        check.sentence("With cancelling, it is removed from the queue or the workers where it is.");
+        // What counts is the switch when an attempt is abandoned: those of tick 5 stay.
+        RetryStorm x = everywhere(false);
+        x.setSwitch(2, true);
+        for (int ticks = 0; ticks <= 1; ticks++) {
+            check.due("atWorker(true, 0)", x.atWorker(true, 0), ABANDONED);
+            check.due("atWorker(false, 1)", x.atWorker(false, 1), ABANDONED);
+            check.due("atWorker(false, 2)", x.atWorker(false, 2), ABANDONED);
+            check.due("queued(true, 0)", x.queued(true, 0), ABANDONED);
+            check.due("queued(false, 0)", x.queued(false, 0), ABANDONED);
+            check.due("pending", x.told(9), 1 + 4 + 1 + 5 + 2 * ticks);
+            check.due("wasted", x.told(8), 0);
+            x.run(1);
+        }
+        x.run(39);
+        check.due("all have been worked on to their ends", x.told(8), 13 + 13 + 12 + 12);
+        check.due("pending", x.told(9), 0);
+    }
+
+    private static void cancellingSwitchedOffLater() {
+        check.sentence("Without cancelling, the servers go on with it as if nothing had happened");
+        RetryStorm x = Storms.one(12, 0);
+        x.set(0, Storms.TIMEOUT, 3);
+        x.setSwitch(2, true);
+        x.run(3);
+        check.due("the first attempt is removed", x.atWorker(false, 0), NONE);
+        check.due("wasted", x.told(8), 3);
+        x.setSwitch(2, false);
+        x.run(5);
+        check.due("the second, sent at 5, stays", x.atWorker(false, 0), ABANDONED);
+        check.due("wasted", x.told(8), 3);
+        check.due("pending", x.told(9), 3);
+        check.due("timeouts", x.count(0, 5), 2);
     }
 
     private static void passingAtTheFront() {
